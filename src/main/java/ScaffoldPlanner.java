@@ -8,7 +8,7 @@ public final class ScaffoldPlanner {
     /** The places for levels in a row, with one for the ground, so that a level is its own index. */
     private static final int LEVELS = 7;
     private static final int MOST_DECKS = 60;
-    /** Ten bays of six levels, each with a deck, a brace, a ladder and itself, and a tie for each level of ten posts. */
+    /** Sixty levels of bays, each with a deck, a brace, a ladder and itself, and sixty ties. */
     private static final int MOST_WORKS = 300;
     private static final int WORK_PARTS = 3;
 
@@ -293,8 +293,7 @@ public final class ScaffoldPlanner {
         judge.examine(plan, ways, job);
         if (judge.reason != 0) {
             lastReport.clear();
-            lastReport.add(job.what, job.place);
-            lastReport.add(judge.reason, judge.detail);
+            addRefusal();
             return false;
         }
         keepChange();
@@ -313,7 +312,9 @@ public final class ScaffoldPlanner {
             ways.explore(draft);
             judge.examine(draft, ways, job);
             if (judge.reason != 0) {
-                reportCommand(number);
+                lastReport.clear();
+                lastReport.add(COMMAND_IN_REPORT, number);
+                addRefusal();
                 return NONE;
             }
             draft.carryOut(job);
@@ -324,9 +325,7 @@ public final class ScaffoldPlanner {
         return number;
     }
 
-    private void reportCommand(int number) {
-        lastReport.clear();
-        lastReport.add(COMMAND_IN_REPORT, number);
+    private void addRefusal() {
         lastReport.add(job.what, job.place);
         lastReport.add(judge.reason, judge.detail);
     }
@@ -525,7 +524,9 @@ public final class ScaffoldPlanner {
             int left = placeBefore(post) * LEVELS;
             int right = post * LEVELS;
             int sum = 0;
-            for (int level = 1; level <= TOP_LEVEL; level++) sum += at(classes, left + level) + at(classes, right + level);
+            for (int level = 1; level <= TOP_LEVEL; level++) {
+                sum += at(classes, left + level) + at(classes, right + level);
+            }
             return LOAD_OF_LEVEL * postHeight(post) + LOAD_OF_CLASS * sum;
         }
 
@@ -654,9 +655,9 @@ public final class ScaffoldPlanner {
             detail = 0;
             examineLevel(plan, work);
             if (reason == 0 && work.what != BAY_LEVEL) examinePlace(plan, work);
-            if (reason == 0 && work.what == LADDERS && !work.isTaken) examineDecksOfLadder(plan, work.place, work.level);
-            if (reason == 0 && work.what == DECKS && work.isTaken) examineLaddersOfDeck(plan, work.place, work.level);
-            if (reason == 0 && work.what == BAY_LEVEL && work.isTaken) examinePiecesOfLevel(plan, work.place, work.level);
+            if (reason == 0 && work.what == LADDERS && !work.isTaken) examineDecksOfLadder(plan, work);
+            if (reason == 0 && work.what == DECKS && work.isTaken) examineLaddersOfDeck(plan, work);
+            if (reason == 0 && work.what == BAY_LEVEL && work.isTaken) examinePiecesOfLevel(plan, work);
             if (reason == 0) examineStanding(plan, ways, work);
             if (reason == 0 && !work.isTaken) examineYard(plan, work);
             if (reason != 0) return;
@@ -683,21 +684,23 @@ public final class ScaffoldPlanner {
             if (plan.has(work.what, work.place, work.level) != work.isTaken) refuse(2, work.level);
         }
 
-        private void examineDecksOfLadder(Plan plan, int bay, int level) {
-            if (level > 1 && !plan.has(DECKS, bay, level - 1)) refuse(3, level - 1);
-            else if (!plan.has(DECKS, bay, level)) refuse(3, level);
+        private void examineDecksOfLadder(Plan plan, Work work) {
+            int below = work.level - 1;
+            if (below > 0 && !plan.has(DECKS, work.place, below)) refuse(3, below);
+            else if (!plan.has(DECKS, work.place, work.level)) refuse(3, work.level);
         }
 
-        private void examineLaddersOfDeck(Plan plan, int bay, int level) {
-            if (plan.has(LADDERS, bay, level)) refuse(3, level);
-            else if (plan.has(LADDERS, bay, level + 1)) refuse(3, level + 1);
+        private void examineLaddersOfDeck(Plan plan, Work work) {
+            int above = work.level + 1;
+            if (plan.has(LADDERS, work.place, work.level)) refuse(3, work.level);
+            else if (plan.has(LADDERS, work.place, above)) refuse(3, above);
         }
 
-        private void examinePiecesOfLevel(Plan plan, int bay, int level) {
-            if (plan.has(DECKS, bay, level)) refuse(3, DECKS);
-            else if (plan.has(BRACES, bay, level)) refuse(3, BRACES);
-            else if (plan.isTiedByLevel(bay, level)) refuse(3, TIES);
-            else if (plan.has(LADDERS, bay, level)) refuse(3, LADDERS);
+        private void examinePiecesOfLevel(Plan plan, Work work) {
+            if (plan.has(DECKS, work.place, work.level)) refuse(3, DECKS);
+            else if (plan.has(BRACES, work.place, work.level)) refuse(3, BRACES);
+            else if (plan.isTiedByLevel(work.place, work.level)) refuse(3, TIES);
+            else if (plan.has(LADDERS, work.place, work.level)) refuse(3, LADDERS);
         }
 
         private void examineStanding(Plan plan, Ways ways, Work work) {
