@@ -1,15 +1,5 @@
 /** Promise by promise: ordinary calls, the edges that the document names, and wrong arguments. */
 public final class PromisesTest {
-    /** Bay 0 up to level 6 in 27 works and three changes, with decks of class 1 and ties at 2 and 4 of its posts. */
-    private static final String TOWER = """
-        type e0;d0.1;l0.1;b0.1;e0;d0.2;l0.2;b0.2;t0.2;t1.2
-        perform() = 10
-        type e0;d0.3;l0.3;b0.3;e0;d0.4;l0.4;b0.4;t0.4;t1.4
-        perform() = 10
-        type e0;d0.5;l0.5;b0.5;e0;d0.6;l0.6
-        perform() = 7
-        """;
-
     public static void main(String[] args) {
         newObject();
         start();
@@ -202,7 +192,8 @@ public final class PromisesTest {
             account(1) = 8
             account(13) = 4
             """);
-        Script.run("promise 5, six levels", TOWER + """
+        Script.run("promise 5, six levels", """
+            tower
             account(13) = 27
             bay(0, 0) = 6
             erect(0) ! UnsupportedOperation
@@ -435,7 +426,8 @@ public final class PromisesTest {
     }
 
     private static void take() {
-        Script.run("promise 9", TOWER + """
+        Script.run("promise 9", """
+            tower
             take(1, 9, 1) ! IllegalArgument
             take(6, 0, 1) ! IllegalArgument
             take(2, 4, 1) ! IndexOutOfBounds
@@ -561,7 +553,8 @@ public final class PromisesTest {
     }
 
     private static void bay() {
-        Script.run("promise 12", TOWER + """
+        Script.run("promise 12", """
+            tower
             bay(-1, 9) ! IndexOutOfBounds
             bay(4, 0) ! IndexOutOfBounds
             bay(0, -1) ! IllegalArgument
@@ -586,7 +579,8 @@ public final class PromisesTest {
     }
 
     private static void post() {
-        Script.run("promise 13", TOWER + """
+        Script.run("promise 13", """
+            tower
             post(4, 9) ! IndexOutOfBounds
             post(-1, 0) ! IndexOutOfBounds
             post(0, -1) ! IllegalArgument
@@ -648,7 +642,8 @@ public final class PromisesTest {
     }
 
     private static void steps() {
-        Script.run("promise 15, up to the highest level", TOWER + """
+        Script.run("promise 15, up to the highest level", """
+            tower
             steps(0, 6) = 6
             steps(0, 5) = 5
             take(5, 0, 1) = 5
@@ -803,7 +798,8 @@ public final class PromisesTest {
             undo() = 0
             dismantling() = 0
             """);
-        Script.run("promises 19 and 20, what must wait", TOWER + """
+        Script.run("promises 19 and 20, what must wait", """
+            tower
             work(0, 0) = 5
             dismantling() = 27
             work(0, 2) = 6
@@ -889,7 +885,8 @@ public final class PromisesTest {
     }
 
     private static void account() {
-        Script.run("promise 21", TOWER + """
+        Script.run("promise 21", """
+            tower
             account(-1) ! IllegalArgument
             account(18) ! IllegalArgument
             account(MIN) ! IllegalArgument
