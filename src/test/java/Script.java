@@ -146,13 +146,17 @@ final class Script {
         if (call.startsWith("do ")) type(with.planner, call.substring(3));
         String got = answer(with.planner, call.startsWith("do ") ? "perform()" : call);
         boolean isRefused = got.equals("! UnsupportedOperation");
-        due(name + ": the state behind " + call, state(with.planner, isRefused), state(without.planner, isRefused));
+        int bays = Integer.parseInt(answer(without.planner, "account(12)"));
+        List<String> want = state(without.planner, bays, isRefused);
+        List<String> seen = state(with.planner, bays, isRefused);
+        int i = 0;
+        while (i < want.size() - 1 && seen.get(i).equals(want.get(i))) i++;
+        due(name + ": the state behind " + call, seen.get(i), want.get(i));
     }
 
-    /** All that can be seen of an object, told by some 250 calls; a refusal's report is its own. */
-    private static String state(ScaffoldPlanner planner, boolean isWithoutReport) {
-        StringBuilder seen = new StringBuilder();
-        int bays = Integer.parseInt(answer(planner, "account(12)"));
+    /** All that can be seen of an object of so many bays, told by up to 400 calls; a refusal's report is its own. */
+    private static List<String> state(ScaffoldPlanner planner, int bays, boolean isWithoutReport) {
+        List<String> seen = new ArrayList<>();
         for (int what = 0; what < 18; what++) see(seen, planner, "account(" + what + ")");
         for (int place = 0; place < bays; place++) {
             for (int what = 0; what < 6; what++) see(seen, planner, "bay(" + place + ", " + what + ")");
@@ -173,11 +177,11 @@ final class Script {
         }
         see(seen, planner, "restore()");
         for (int what = 0; what < 18; what++) see(seen, planner, "account(" + what + ")");
-        return seen.toString();
+        return seen;
     }
 
-    private static void see(StringBuilder seen, ScaffoldPlanner planner, String call) {
-        seen.append(call).append(" = ").append(answer(planner, call)).append('\n');
+    private static void see(List<String> seen, ScaffoldPlanner planner, String call) {
+        seen.add(call + " = " + answer(planner, call));
     }
 
     /** The answer of a call as a text, or "! " and the exception's own class. */
